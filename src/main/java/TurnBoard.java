@@ -324,10 +324,6 @@ public final class TurnBoard {
                 to[i] = from[i];
             }
         }
-
-        static int modulo(int value, int by) {
-            return by < 1 || value < 0 ? 0 : value % by;
-        }
     }
 
     /** The TURNS of a KIND and an ORDER. */
@@ -391,7 +387,7 @@ public final class TurnBoard {
                 return a ^ b;
             }
             if (kind == ROUND) {
-                return Rows.modulo(a + b, order);
+                return a + b < order ? a + b : a + b - order;
             }
             int half = order >> 1;
             boolean flipA = a >= half;
@@ -402,7 +398,8 @@ public final class TurnBoard {
             if (kind == FLIPS_OF_FOUR && flipA && flipB) {
                 together += 2;
             }
-            return Rows.modulo(together, half) + (flipA == flipB ? 0 : half);
+            int rest = half < 1 ? 0 : together % half;
+            return flipA == flipB ? rest : rest + half;
         }
 
         private void fillKins() {
@@ -832,7 +829,8 @@ public final class TurnBoard {
         }
 
         private int drawnTurn(int square, int bits) {
-            int left = Rows.modulo(bits, isHole(square) ? group.order() : weightSum());
+            int together = isHole(square) ? group.order() : weightSum();
+            int left = together < 1 ? 0 : bits % together;
             int turn = 0;
             while (turn < group.order() && left >= weightIn(square, turn)) {
                 left -= weightIn(square, turn);
