@@ -1492,10 +1492,11 @@ public final class TurnBoard {
             return choices(others, k) * overShape();
         }
 
+        /** Counted out, as there are nine SQUARES at most. */
         private static long choices(int all, int some) {
-            long choices = 1;
-            for (int i = 1; i <= some; i++) {
-                choices = choices * (all - some + i) / i;
+            long choices = 0;
+            for (int set = 0; set < 1 << all; set++) {
+                choices += Integer.bitCount(set) == some ? 1 : 0;
             }
             return choices;
         }
@@ -1541,15 +1542,16 @@ public final class TurnBoard {
 
         /** By Burnside: those that a change at (0, 0) leaves as they are, over all such changes. */
         private int commutingPairsOnce() {
+            int order = group.order();
             int left = 0;
-            for (int a = 0; a < group.order(); a++) {
-                for (int b = 0; b < group.order(); b++) {
-                    for (int c = 0; c < group.order() && group.commute(a, b); c++) {
+            for (int a = 0; a < order; a++) {
+                for (int b = 0; b < order; b++) {
+                    for (int c = 0; c < order && group.commute(a, b); c++) {
                         left += group.commute(c, a) && group.commute(c, b) ? 1 : 0;
                     }
                 }
             }
-            return group.order() < 1 ? 0 : left / group.order();
+            return order < 1 ? 0 : left / order;
         }
 
         long ofBody(int squares, int handles, int crosses) {
