@@ -905,7 +905,6 @@ public final class TurnBoard {
 
         void open() {
             place = 0;
-            begin = 0;
             wrong = NONE;
         }
 
@@ -960,13 +959,13 @@ public final class TurnBoard {
             return true;
         }
 
-        boolean passWord() {
+        /** Without letters, an empty word is passed, which is none that a text knows. */
+        void passWord() {
             hasMore();
             begin = place;
             while (place < tape.size() && tape.byteAt(place) >= 'a' && tape.byteAt(place) <= 'z') {
                 place++;
             }
-            return place > begin || refuse(begin);
         }
 
         boolean isWord(String word) {
@@ -1032,9 +1031,7 @@ public final class TurnBoard {
         }
 
         private boolean readPart() {
-            if (!reader.passWord()) {
-                return false;
-            }
+            reader.passWord();
             if (reader.isWord("group")) {
                 return readGroup();
             }
@@ -1170,9 +1167,7 @@ public final class TurnBoard {
         }
 
         private boolean readBegin() {
-            if (!reader.passWord()) {
-                return false;
-            }
+            reader.passWord();
             if (!reader.isWord("from")) {
                 return reader.refuseLatest();
             }
@@ -1199,9 +1194,7 @@ public final class TurnBoard {
                 return false;
             }
             int begin = reader.begin();
-            if (!reader.passWord()) {
-                return false;
-            }
+            reader.passWord();
             int way = wayRead();
             if (way == NONE) {
                 return reader.refuseLatest();

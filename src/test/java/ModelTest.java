@@ -181,9 +181,31 @@ public final class ModelTest {
             check(3, "fault()", board::fault, () -> model.fault);
         }
 
+        /** More changes than are remembered, and back by more than there are. */
+        private void changeOften() {
+            for (int i = 0; i < 24; i++) {
+                int x = die(model.wide + 1);
+                int y = die(model.high + 1);
+                int t = die(model.order);
+                boolean north = die(2) == 0;
+                if (die(2) == 0) {
+                    check(9, "frame(" + x + ", " + y + ", " + t + ")", () -> board.frame(x, y, t), () -> model.frame(x, y, t));
+                } else {
+                    check(7, "set(" + x + ", " + y + ", " + north + ", " + t + ")", () -> board.set(x, y, north, t), () -> model.set(x, y, north, t));
+                }
+            }
+            int back = die(24);
+            for (int i = 0; i < back; i++) {
+                check(10, "undo()", () -> board.undo() ? 1 : 0, () -> model.undo() ? 1 : 0);
+            }
+        }
+
         private void stepMore() {
             int t = someTurn();
             int seed = die(1 << 30) * 3;
+            if (die(60) == 0) {
+                changeOften();
+            }
             switch (die(18)) {
                 case 0: check(13, "worth()", board::worth, model::worth); break;
                 case 1: check(14, "turned()", board::turned, model::turned); break;

@@ -235,6 +235,9 @@ public final class PromiseTest {
         wrongText(x, "group 99999999999999999999 2", 6);
         wrongText(x, "size 2 ,1", 7);
         wrongText(x, "size 4 1", 5);
+        wrongText(x, "size 3 4", 7);
+        wrongText(x, "size 3 0", 7);
+        wrongText(x, "size 0 3", 5);
         wrongText(x, "size 21", 5);
         wrongText(x, "size 2 1 3", 9);
         wrongText(x, "size 2 1x", 8);
@@ -518,6 +521,24 @@ public final class PromiseTest {
             is(after, () -> x.line(0, 0, false));
         }
         is(false, x::redo);
+        TurnBoard y = told("group 1 6;size 2 2");
+        int[][] held = new int[24][18];
+        for (int i = 0; i < 24; i++) {
+            look(y, held[i]);
+            if (i % 3 == 0) {
+                y.frame(i % 2, i / 8, i % 5 + 1);
+            } else {
+                y.set(i % 2, i / 8, i % 4 < 2 && i < 16, i % 6);
+            }
+        }
+        for (int i = 23; i >= 4; i--) {
+            int[] now = new int[18];
+            int[] due = held[i];
+            is(true, y::undo);
+            look(y, now);
+            is(true, () -> java.util.Arrays.equals(now, due));
+        }
+        is(false, y::undo);
         x.undo();
         x.draw(4);
         is(false, x::undo);
@@ -528,6 +549,13 @@ public final class PromiseTest {
         x.back();
         is(0, () -> x.count(10));
         is(0, () -> x.count(11));
+    }
+
+    private static void look(TurnBoard x, int[] turns) {
+        for (int i = 0; i < 9; i++) {
+            turns[2 * i] = i % 3 < 2 ? x.line(i % 3, i / 3, false) : -1;
+            turns[2 * i + 1] = i / 3 < 2 ? x.line(i % 3, i / 3, true) : -1;
+        }
     }
 
     private static void walk() {
@@ -722,6 +750,7 @@ public final class PromiseTest {
         is(false, () -> x.end(1));
         is(STATE, () -> mean(x, "from 0 0", -1));
         is(STATE, () -> mean(x, "from 0 0;1 east;1 west", -1));
+        is(STATE, () -> mean(x, "from 0 0;1 east;1 west;1 north;1 south", -1));
         is(STATE, () -> mean(x, "from 0 0;1 east;1 north;1 west", 0));
         is(STATE, () -> mean(x, ring + ";1 east;1 west", 0));
         is(STATE, () -> mean(x, ring + ";1 east;1 north;1 west;1 south", 0));
