@@ -1,82 +1,5 @@
-import java.util.NoSuchElementException;
-
 /** For each promise of the document: ordinary calls, the edges that it names, and wrong calls. */
-public final class PromiseTest {
-    private static int wrong = 0;
-    private static String promise = "";
-
-    private interface Call {
-        Object answer();
-    }
-
-    private static void is(Object want, Call call) {
-        Object got;
-        try {
-            got = call.answer();
-        } catch (RuntimeException e) {
-            got = e.getClass();
-        }
-        boolean same = want instanceof Number && got instanceof Number
-                ? ((Number) want).longValue() == ((Number) got).longValue() : want.equals(got);
-        if (!same) {
-            wrong++;
-            StackTraceElement at = new Throwable().getStackTrace()[1];
-            System.out.println(promise + ", line " + at.getLineNumber() + ": " + got + ", due is " + want);
-        }
-    }
-
-    private static final Class<?> INDEX = IndexOutOfBoundsException.class;
-    private static final Class<?> ARGUMENT = IllegalArgumentException.class;
-    private static final Class<?> STATE = IllegalStateException.class;
-    private static final Class<?> ELEMENT = NoSuchElementException.class;
-    private static final Class<?> UNSUPPORTED = UnsupportedOperationException.class;
-
-    /** Puts a text alone onto the TAPE. */
-    private static void tape(TurnBoard x, String text) {
-        x.end(0);
-        for (int i = 0; i < text.length(); i += 20) {
-            int[] n = new int[5];
-            for (int j = 0; j < 20; j++) {
-                int sign = i + j < text.length() ? text.charAt(i + j) : 0;
-                n[j / 4] = n[j / 4] << 8 | sign;
-            }
-            x.feed(n[0], n[1], n[2], n[3], n[4]);
-        }
-        x.end(text.length());
-    }
-
-    private static TurnBoard told(String... texts) {
-        TurnBoard x = new TurnBoard();
-        for (String text : texts) {
-            tape(x, text);
-            x.board();
-        }
-        return x;
-    }
-
-    private static void wrongText(TurnBoard x, String text, int fault) {
-        tape(x, text);
-        is(ARGUMENT, x::board);
-        is(fault, x::fault);
-        is(0, () -> x.count(0));
-    }
-
-    private static void wrongWalk(TurnBoard x, String text, int fault) {
-        tape(x, text);
-        is(ARGUMENT, () -> x.walk(0));
-        is(fault, x::fault);
-    }
-
-    private static Object walk(TurnBoard x, String text, int what) {
-        tape(x, text);
-        return x.walk(what);
-    }
-
-    private static Object mean(TurnBoard x, String text, int kin) {
-        tape(x, text);
-        return x.mean(kin);
-    }
-
+public final class PromiseTest extends Calls {
     public static void main(String[] args) {
         newObject();
         feedAndEnd();
@@ -107,14 +30,11 @@ public final class PromiseTest {
         imageAndBack();
         count();
         manyCalls();
-        System.out.println(wrong == 0 ? "PromiseTest: all as due" : "PromiseTest: " + wrong + " wrong");
-        if (wrong != 0) {
-            System.exit(1);
-        }
+        finish("PromiseTest");
     }
 
     private static void newObject() {
-        promise = "1 a new object";
+        about("1 a new object");
         TurnBoard x = new TurnBoard();
         int[] want = {0, 0, 2, 2, 1, 1, 0, 4, 4, 0, 0, 0, 4};
         for (int i = 0; i < want.length; i++) {
@@ -132,7 +52,7 @@ public final class PromiseTest {
     }
 
     private static void feedAndEnd() {
-        promise = "2 feed, 3 end";
+        about("2 feed, 3 end");
         TurnBoard x = new TurnBoard();
         for (int i = 1; i <= 20; i++) {
             is(20 * i, () -> x.feed(0x20202020, 0x20202020, 0x20202020, 0x20202020, 0x20202020));
@@ -159,7 +79,7 @@ public final class PromiseTest {
     }
 
     private static void boardGroups() {
-        promise = "4 board: group and weight";
+        about("4 board: group and weight");
         for (int kind = 0; kind <= 4; kind++) {
             for (int order = 0; order <= 9; order++) {
                 TurnBoard x = new TurnBoard();
@@ -192,7 +112,7 @@ public final class PromiseTest {
     }
 
     private static void boardPlaces() {
-        promise = "4 board: places";
+        about("4 board: places");
         TurnBoard x = told("size 2 2;hole 0 1;hole 0 1;weight 1 3;north 2 0 1");
         is(1, () -> x.count(9));
         is(1, () -> x.line(2, 0, true));
@@ -222,7 +142,7 @@ public final class PromiseTest {
     }
 
     private static void boardFaults() {
-        promise = "4 board: wrong texts, 5 fault";
+        about("4 board: wrong texts, 5 fault");
         TurnBoard x = new TurnBoard();
         wrongText(x, "group", 5);
         wrongText(x, "group  ", 7);
@@ -267,7 +187,7 @@ public final class PromiseTest {
     }
 
     private static void boardLimits() {
-        promise = "4 board: limits";
+        about("4 board: limits");
         String twelve = "shape 0;shape 0;shape 0;shape 0;shape 0;shape 0;shape 0;shape 0;shape 0;shape 0;shape 0;shape 1";
         TurnBoard x = new TurnBoard();
         wrongText(x, twelve + "; shape 0", 97);
@@ -296,7 +216,7 @@ public final class PromiseTest {
     }
 
     private static void fault() {
-        promise = "5 fault";
+        about("5 fault");
         TurnBoard x = new TurnBoard();
         is(-1, x::fault);
         tape(x, "shape 7");
@@ -320,7 +240,7 @@ public final class PromiseTest {
     }
 
     private static void by() {
-        promise = "6 by";
+        about("6 by");
         TurnBoard round = told("group 0 7");
         is(4, () -> round.by(5, 6));
         is(6, () -> round.by(6, 0));
@@ -343,7 +263,7 @@ public final class PromiseTest {
     }
 
     private static void turn() {
-        promise = "7 turn";
+        about("7 turn");
         int[][] flips = {
             {0, 2, 1, 3, 4, 5},
             {0, 1, 1, 2, 2, 2},
@@ -380,7 +300,7 @@ public final class PromiseTest {
     }
 
     private static void line() {
-        promise = "8 line";
+        about("8 line");
         TurnBoard flat = told("group 0 5;size 2 1;east 1 1 3;north 2 0 4");
         is(3, () -> flat.line(1, 1, false));
         is(4, () -> flat.line(2, 0, true));
@@ -404,7 +324,7 @@ public final class PromiseTest {
     }
 
     private static void set() {
-        promise = "9 set";
+        about("9 set");
         TurnBoard x = told("group 0 5;size 2 2;shape 1");
         is(0, () -> x.set(2, 0, true, 3));
         is(3, () -> x.set(0, 0, true, 4));
@@ -420,7 +340,7 @@ public final class PromiseTest {
     }
 
     private static void round() {
-        promise = "10 round";
+        about("10 round");
         TurnBoard x = told("group 1 6;size 2 1;east 0 0 1;north 1 0 3;east 0 1 4;north 0 0 2");
         int want = x.by(x.by(x.by(1, 3), x.turn(4, 0)), x.turn(2, 0));
         is(want, () -> x.round(0, 0));
@@ -435,7 +355,7 @@ public final class PromiseTest {
     }
 
     private static void frame() {
-        promise = "11 frame";
+        about("11 frame");
         TurnBoard x = told("group 1 6;size 2 2;east 0 1 4;east 1 1 1;north 1 1 3");
         is(4, () -> x.frame(1, 1, 1));
         is(x.by(4, 2), () -> x.line(0, 1, false));
@@ -460,7 +380,7 @@ public final class PromiseTest {
     }
 
     private static void undoAndRedo() {
-        promise = "12 undo, 13 redo";
+        about("12 undo, 13 redo");
         TurnBoard x = told("group 1 6;size 2 1;east 1 0 4");
         is(false, x::undo);
         is(false, x::redo);
@@ -501,7 +421,7 @@ public final class PromiseTest {
     }
 
     private static void undoLimits() {
-        promise = "12 undo, 13 redo: twenty";
+        about("12 undo, 13 redo: twenty");
         TurnBoard x = told("group 0 8");
         for (int i = 1; i <= 25; i++) {
             x.set(0, 0, false, i % 8);
@@ -524,7 +444,7 @@ public final class PromiseTest {
         TurnBoard y = told("group 1 6;size 2 2");
         int[][] held = new int[24][18];
         for (int i = 0; i < 24; i++) {
-            look(y, held[i]);
+            lookAtLines(y, held[i]);
             if (i % 3 == 0) {
                 y.frame(i % 2, i / 8, i % 5 + 1);
             } else {
@@ -535,7 +455,7 @@ public final class PromiseTest {
             int[] now = new int[18];
             int[] due = held[i];
             is(true, y::undo);
-            look(y, now);
+            lookAtLines(y, now);
             is(true, () -> java.util.Arrays.equals(now, due));
         }
         is(false, y::undo);
@@ -551,7 +471,7 @@ public final class PromiseTest {
         is(0, () -> x.count(11));
     }
 
-    private static void look(TurnBoard x, int[] turns) {
+    private static void lookAtLines(TurnBoard x, int[] turns) {
         for (int i = 0; i < 9; i++) {
             turns[2 * i] = i % 3 < 2 ? x.line(i % 3, i / 3, false) : -1;
             turns[2 * i + 1] = i / 3 < 2 ? x.line(i % 3, i / 3, true) : -1;
@@ -559,7 +479,7 @@ public final class PromiseTest {
     }
 
     private static void walk() {
-        promise = "14 walk";
+        about("14 walk");
         TurnBoard x = told("group 1 6;size 2 1;east 0 0 1;east 1 0 3;north 2 0 4;east 1 1 2");
         int far = x.by(x.by(x.by(1, 3), 4), x.turn(2, 0));
         is(far, () -> walk(x, "from 0 0;2 east;1 north; 001west", 0));
@@ -588,7 +508,7 @@ public final class PromiseTest {
     }
 
     private static void walkFaults() {
-        promise = "14 walk: wrong texts";
+        about("14 walk: wrong texts");
         TurnBoard x = told("size 2 1");
         wrongWalk(x, "", 0);
         wrongWalk(x, "  ", 2);
@@ -619,7 +539,7 @@ public final class PromiseTest {
     }
 
     private static void worthAndTurned() {
-        promise = "15 worth, 16 turned";
+        about("15 worth, 16 turned");
         TurnBoard x = told("group 0 3;size 2 2;weight 0 2;weight 1 5;weight 2 7;hole 1 1");
         is(8, x::worth);
         is(0, x::turned);
@@ -640,7 +560,7 @@ public final class PromiseTest {
     }
 
     private static void alike() {
-        promise = "17 alike";
+        about("17 alike");
         TurnBoard x = told("group 1 6;size 2 1;shape 1;east 0 0 1;north 1 0 3");
         is(STATE, x::alike);
         x.image();
@@ -678,7 +598,7 @@ public final class PromiseTest {
     }
 
     private static void sumAndListed() {
-        promise = "18 sum, 19 listed";
+        about("18 sum, 19 listed");
         TurnBoard flat = told("group 0 3;size 2 2;weight 1 4;weight 2 0;hole 0 0");
         is(3 * 125, flat::sum);
         is(3 * 125, flat::listed);
@@ -706,7 +626,7 @@ public final class PromiseTest {
     }
 
     private static void states() {
-        promise = "20 states";
+        about("20 states");
         TurnBoard flat = told("group 0 3;size 2 2;hole 1 1;weight 0 7;weight 1 0");
         int[] want = {3, 18, 36, 24, 0};
         for (int i = 0; i < want.length; i++) {
@@ -726,7 +646,7 @@ public final class PromiseTest {
     }
 
     private static void mean() {
-        promise = "21 mean";
+        about("21 mean");
         String ring = "from 0 0;1 east;1 north;1 west;1 south";
         String other = "from 0 0;1 north;1 east;1 south;1 west";
         String wide = "from 2 1;2 west;1 south;2 east;1 north";
@@ -772,7 +692,7 @@ public final class PromiseTest {
     }
 
     private static void rests() {
-        promise = "22 rests";
+        about("22 rests");
         TurnBoard flat = told("group 1 8;size 3 3;hole 1 1;east 0 0 3");
         is(1, () -> flat.rests(false));
         is(1, () -> flat.rests(true));
@@ -790,7 +710,7 @@ public final class PromiseTest {
     }
 
     private static void body() {
-        promise = "23 body";
+        about("23 body");
         TurnBoard x = told("group 2 8;weight 0 2;weight 1 3;size 2 2;hole 0 0");
         is(1, () -> x.body(0, 0, 0));
         is(2, () -> x.body(1, 0, 0));
@@ -812,7 +732,7 @@ public final class PromiseTest {
     }
 
     private static void dual() {
-        promise = "24 dual, 25 dualSum";
+        about("24 dual, 25 dualSum");
         TurnBoard x = told("group 3 8;weight 0 1;weight 1 2;weight 2 3;weight 3 4;weight 4 5;weight 5 6;weight 6 7;weight 7 8",
                 "size 2 1");
         int[] want = {36, -4, -8, 0, -16, 0, 0, 0};
@@ -844,7 +764,7 @@ public final class PromiseTest {
     }
 
     private static void draw() {
-        promise = "26 draw";
+        about("26 draw");
         TurnBoard x = told("group 1 6;size 2 2;weight 0 2;weight 1 3;weight 3 4;hole 1 0;east 0 0 3;north 0 0 2");
         int seed = -77;
         int[] weights = {2, 3, 3, 4, 4, 4};
@@ -886,7 +806,7 @@ public final class PromiseTest {
     }
 
     private static void imageAndBack() {
-        promise = "27 image, 28 back";
+        about("27 image, 28 back");
         TurnBoard x = told("group 1 6;size 2 1;hole 1 0;weight 3 4;east 0 0 2");
         is(false, x::back);
         x.set(0, 0, false, 3);
@@ -921,7 +841,7 @@ public final class PromiseTest {
     }
 
     private static void count() {
-        promise = "29 count";
+        about("29 count");
         int[][] places = {{3, 2, 12, 17}, {3, 2, 9, 15}, {3, 2, 6, 12}};
         for (int shape = 0; shape <= 2; shape++) {
             TurnBoard x = told("group 1 8;size 3 2;shape " + shape + ";hole 2 1;hole 0 0");
@@ -940,7 +860,7 @@ public final class PromiseTest {
 
     /** 512 calls, many of them dear ones, on one object. */
     private static void manyCalls() {
-        promise = "many calls";
+        about("many calls");
         TurnBoard x = told("group 2 8;size 2 2;shape 2;weight 1 3;weight 4 2;weight 5 7");
         for (int i = 0; i < 500; i++) {
             x.set(i % 3, i / 3 % 3, i % 2 == 0, i % 8);
