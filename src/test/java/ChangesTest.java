@@ -25,6 +25,7 @@ public final class ChangesTest extends Calls {
         alikeNeedsAll();
         alikeFrames();
         alikeNotQuite();
+        alikeGoingRound();
         noImage();
         imageOfAll();
         oneImage();
@@ -492,6 +493,35 @@ public final class ChangesTest extends Calls {
         is(true, () -> four.alike() == isTubeAlike(four));
         four.set(0, 0, false, 4);
         is(false, four::alike);
+    }
+
+    private static void alikeGoingRound() {
+        about("changes of FRAMES make this state that one: what goes round a tube stays of its KIN");
+        for (int[] group : GROUPS) {
+            TurnBoard tube = told(group(group) + ";size 3 2;shape 1");
+            tube.image();
+            for (int y = 0; y <= 2; y++) {
+                tube.set(1, y, false, 1);
+            }
+            is(0, tube::turned);
+            is(false, tube::alike);
+            tube.image();
+            for (int y = 0; y <= 2; y++) {
+                tube.set(1, y, false, 0);
+                tube.set(2, y, false, 1);
+            }
+            is(true, tube::alike);
+            TurnBoard closed = told(group(group) + ";size 2 3;shape 2");
+            closed.image();
+            for (int x = 0; x < 2; x++) {
+                closed.set(x, 1, true, 1);
+            }
+            is(0, closed::turned);
+            is(false, closed::alike);
+            closed.set(0, 1, true, 0);
+            closed.set(1, 1, true, 0);
+            is(true, closed::alike);
+        }
     }
 
     /** Of a tube of one SQUARE: some C at (0, 0) and some D at (0, 1) make all three LINES those of THE IMAGE. */

@@ -48,8 +48,10 @@ public final class RulesTest {
         "int count(int)",
     };
     private static final String[] REFUSED = {
-        "->", "::", "synchronized", "assert", "finally", "catch", "try", "System", "Thread", "Object", "var",
-        "equals", "hashCode", "toString", "currentTimeMillis", "Random", "addExact", "multiplyExact", "List", "lambda",
+        "->", "::", "synchronized", "assert", "finally", "Thread", "Object", "var", "hashCode", "currentTimeMillis",
+        "nanoTime", "Random", "addExact", "subtractExact", "multiplyExact", "getMessage", "NullPointerException",
+        "ArrayIndexOutOfBoundsException", "ClassCastException", "NegativeArraySizeException", "ArrayStoreException",
+        "Throwable", "Error",
     };
 
     private static int wrong = 0;
@@ -133,6 +135,7 @@ public final class RulesTest {
             String pattern = Character.isLetter(word.charAt(0)) ? "\\b" + word + "\\b" : Pattern.quote(word);
             need(!Pattern.compile(pattern).matcher(code).find(), word + " stands in the source");
         }
+        need(!Pattern.compile("\\bSystem\\.(?!arraycopy\\()").matcher(code).find(), "System but for arraycopy");
         Matcher imports = Pattern.compile("import ([a-zA-Z.]+);").matcher(code);
         while (imports.find()) {
             need(imports.group(1).equals("java.util.NoSuchElementException"), "import " + imports.group(1));

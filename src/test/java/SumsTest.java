@@ -12,6 +12,7 @@ public final class SumsTest extends Calls {
         listedLimit();
         listedIsSum();
         linesDoNotMatter();
+        leftovers();
         states();
         statesOfHoles();
         statesAreAll();
@@ -228,6 +229,43 @@ public final class SumsTest extends Calls {
         is(2 * 2 + 2 + 3 * 25, () -> x.body(2, 0, 0));
         is(before, () -> look(x));
         is(true, x::redo);
+    }
+
+    /** What a sum, a table or a list of an earlier BOARD left must not be seen in the next. */
+    private static void leftovers() {
+        about("the same sums, whatever BOARD was ahead");
+        String[] sizes = {"2 2", "1 1", "2 1", "1 2", "3 1", "1 3", "2 2", "1 1"};
+        for (int[] group : GROUPS) {
+            for (int shape = 0; shape <= 2; shape++) {
+                TurnBoard x = told("group 1 8;size 2 2;shape 2;weight 0 9;weight 4 8");
+                is(x.sum(), x::listed);
+                is(2, () -> board(x, group(group)));
+                for (String size : sizes) {
+                    String text = "size " + size + ";shape " + shape + ";weight 1 3;hole 0 0";
+                    TurnBoard y = told(group(group) + ";" + text);
+                    board(x, text);
+                    is(y.listed(), x::listed);
+                    is(y.sum(), x::sum);
+                    is(y.states(1), () -> x.states(1));
+                    is(y.rests(true), () -> x.rests(true));
+                    is(y.body(2, 1, 1), () -> x.body(2, 1, 1));
+                    is(y.worth(), x::worth);
+                }
+                is(2 + sizes.length, () -> x.count(0));
+            }
+        }
+        for (int[] group : GROUPS) {
+            TurnBoard x = told("group 2 8;weight 0 5;weight 4 3", group(group));
+            TurnBoard y = told(group(group));
+            is(look(y).substring(1), () -> look(x).substring(1));
+            for (int t = 0; t < group[1]; t++) {
+                for (int what = 0; what <= 6; what++) {
+                    int turn = t;
+                    int asked = what;
+                    is(y.turn(t, what), () -> x.turn(turn, asked));
+                }
+            }
+        }
     }
 
     private static void states() {

@@ -20,6 +20,7 @@ public final class TextsTest extends Calls {
         digits();
         turnsByThen();
         words();
+        letters();
         blanks();
         otherSigns();
         moreMustCome();
@@ -354,6 +355,22 @@ public final class TextsTest extends Calls {
         newRight("north0 0 1");
         newWrong("size 2 2shape 1", 8);
         newWrong("size 2 2 shape 1", 9);
+    }
+
+    private static void letters() {
+        about("a word that is none: by one letter");
+        for (String text : RIGHT) {
+            int length = text.indexOf(' ');
+            for (int i = 0; i < length; i++) {
+                newWrong(text.substring(0, i) + "q" + text.substring(i + 1), 0);
+                newWrong(text.substring(0, i) + text.substring(i + 1), 0);
+                newWrong(text.substring(0, i) + text.charAt(i) + text.substring(i), 0);
+                newWrong(text.substring(0, i) + (char) (text.charAt(i) - 32) + text.substring(i + 1), 0);
+                if (i > 0) {
+                    newWrong(text.substring(0, i) + " " + text.substring(i), 0);
+                }
+            }
+        }
     }
 
     private static void blanks() {

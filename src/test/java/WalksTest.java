@@ -12,6 +12,7 @@ public final class WalksTest extends Calls {
         noLine();
         bounds();
         blanksAndWords();
+        letters();
         moreMustCome();
         twelve();
         refusals();
@@ -214,6 +215,26 @@ public final class WalksTest extends Calls {
         wrongWalk(x, "from 0 0\0", 8);
     }
 
+    private static void letters() {
+        about("a word of a WALK that is none: by one letter");
+        for (String way : new String[] {"east", "north", "west", "south"}) {
+            TurnBoard x = told("shape 2");
+            for (int i = 0; i < way.length(); i++) {
+                wrongWalk(x, "from 0 0;1 " + way.substring(0, i) + "q" + way.substring(i + 1), 11);
+                wrongWalk(x, "from 0 0;1 " + way.substring(0, i) + way.substring(i + 1), 11);
+                wrongWalk(x, "from 0 0;1 " + way.substring(0, i) + way.charAt(i) + way.substring(i), 11);
+                wrongWalk(x, "from 0 0;1 " + way.substring(0, i) + (char) (way.charAt(i) - 32) + way.substring(i + 1), 11);
+            }
+            is(1, () -> walk(x, "from 0 0;1 " + way, 2));
+        }
+        TurnBoard x = new TurnBoard();
+        wrongWalk(x, "qrom 0 0", 0);
+        wrongWalk(x, "fqom 0 0", 0);
+        wrongWalk(x, "frqm 0 0", 0);
+        wrongWalk(x, "froq 0 0", 0);
+        wrongWalk(x, "rom 0 0", 0);
+    }
+
     private static void moreMustCome() {
         about("of a WALK the text's length, if more must come");
         TurnBoard x = told("size 2 2");
@@ -308,6 +329,18 @@ public final class WalksTest extends Calls {
         is(STATE, () -> mean(x, "from 0 0;1 east;1 west;1 east;1 west", -1));
         is(STATE, () -> mean(x, "from 0 0;3 east;1 north;1 west;1 south;2 west", -1));
         is(2, () -> mean(x, "from 0 0;2 east;1 north;2 west;1 south", -1));
+        is(STATE, () -> mean(x, "from 1 0;1 west;1 north;1 south;1 east", -1));
+        is(STATE, () -> mean(x, "from 3 2;1 north;1 west;1 east;1 south", -1));
+        is(STATE, () -> mean(x, "from 2 0;1 east;1 north;1 south;1 west", -1));
+        is(STATE, () -> mean(x, "from 1 3;1 west;1 south;1 north;1 east", -1));
+        for (int i = 0; i <= 2; i++) {
+            for (int j = 0; j <= 2; j++) {
+                String first = "from " + i + " " + j + ";";
+                is(STATE, () -> mean(x, first + "1 east;1 west;1 north;1 south", -1));
+                is(STATE, () -> mean(x, first + "1 north;1 east;1 west;1 south", 0));
+                is(1, () -> mean(x, first + "1 east;1 north;1 west;1 south", -1));
+            }
+        }
     }
 
     private static void fourLines() {
