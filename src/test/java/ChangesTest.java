@@ -389,7 +389,7 @@ public final class ChangesTest extends Calls {
         TurnBoard x = told("group 1 6;size 2 2");
         String[] states = new String[31];
         for (int i = 0; i < 30; i++) {
-            states[i] = turns(x);
+            states[i] = i < 10 ? "" : turns(x);
             if (i % 2 == 0) {
                 x.frame(i % 3, i / 2 % 3, 1 + i % 5);
             } else {

@@ -12,8 +12,9 @@ import java.util.TreeMap;
  * apart by tokens, keeps LINES in a map, finds its own tree, and lists all STATES.
  */
 public final class ModelTest {
-    private static final int RUNS = 700;
-    private static final int CALLS = 130;
+    private static final int RUNS = 2200;
+    /** Of each run; with those of the last step they stay below the 512 that an object is used for. */
+    private static final int CALLS = 390;
     private static final long MOST_LISTED = 70000;
 
     private static long dice = 1;
@@ -90,7 +91,7 @@ public final class ModelTest {
 
         void go() {
             begin();
-            for (int i = 0; i < CALLS && wrong < 10; i++) {
+            while (calls.size() < CALLS && wrong < 10) {
                 step();
             }
         }
