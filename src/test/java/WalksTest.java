@@ -28,6 +28,7 @@ public final class WalksTest extends Calls {
         meanOtherWay();
         meanOfHoles();
         meanTogether();
+        leftovers();
         finish("WalksTest");
     }
 
@@ -498,6 +499,23 @@ public final class WalksTest extends Calls {
             long together = all;
             is(x.sum(), () -> together);
             is(4, () -> mean(x, hook, -1));
+        }
+    }
+
+    private static void leftovers() {
+        about("the same MEAN, whatever GROUP and BOARD was ahead");
+        for (int[] group : GROUPS) {
+            String text = group(group) + ";size 2 2;weight 1 3";
+            TurnBoard x = told("group 2 8;size 3 3;weight 0 7;weight 1 5;weight 4 8;weight 5 6;hole 2 2");
+            TurnBoard y = told(text);
+            x.sum();
+            mean(x, "from 0 0;3 east;3 north;3 west;3 south", 4);
+            board(x, text);
+            for (int i = -1; i < y.count(3); i++) {
+                int kin = i;
+                is(mean(y, RING, kin), () -> mean(x, RING, kin));
+                is(mean(y, "from 1 2;1 east;2 south;1 west;2 north", kin), () -> mean(x, "from 1 2;1 east;2 south;1 west;2 north", kin));
+            }
         }
     }
 }
